@@ -21,7 +21,7 @@ public final class PlainWords {
 
     public PlainWords() {
         tape = new Tape();
-        reader = new Reader(tape);
+        reader = new Reader();
         writer = new Writer();
         oldLetter = new Letter();
         newLetter = new Letter();
@@ -47,10 +47,9 @@ public final class PlainWords {
     }
 
     public int letter() throws IllegalArgumentException {
-        boolean right = reader.read();
-        int wrongAt = reader.stoppedAt();
+        boolean right = reader.read(tape);
         tape.cut(0);
-        wrongByte = right ? NONE : wrongAt;
+        wrongByte = right ? NONE : reader.stoppedAt();
         if (!right) {
             throw new IllegalArgumentException("the text is wrong");
         }
@@ -720,47 +719,68 @@ public final class PlainWords {
         }
     }
 
-    /** Splits the tape into things; behind the last one stands the text's end. */
-    private static final class Splitter {
-        private final Tape tape;
+    /** The things of a text, taken one behind the other; behind the last one stands the text's end. */
+    private static final class Things {
         private final int[] kinds;
         private final int[] begins;
         private final int[] values;
         private int size;
+        private int textLength;
+        private int at;
 
-        Splitter(Tape tape) {
-            this.tape = tape;
-            kinds = new int[Tape.ROOM + 1];
-            begins = new int[Tape.ROOM + 1];
-            values = new int[Tape.ROOM + 1];
+        Things() {
+            kinds = new int[Tape.ROOM];
+            begins = new int[Tape.ROOM];
+            values = new int[Tape.ROOM];
             size = 0;
+            textLength = 0;
+            at = 0;
         }
 
-        int kind(int i) {
-            return i >= 0 && i < size ? kinds[i] : Thing.TEXT_END;
+        boolean sees(int wanted) {
+            return at >= 0 && at < size ? kinds[at] == wanted : wanted == Thing.TEXT_END;
         }
 
-        int begin(int i) {
-            return i >= 0 && i < size ? begins[i] : tape.size;
+        boolean take(int wanted) {
+            boolean there = at >= 0 && at < size && kinds[at] == wanted;
+            if (there) {
+                at++;
+            }
+            return there;
+        }
+
+        int takeNumber(int least, int most) {
+            int value = value();
+            if (value < least || value > most) {
+                return NONE;
+            }
+            at++;
+            return value;
         }
 
         /** What a number says; NONE, which is out of all bounds, for one of too many digits and for all else. */
-        int value(int i) {
-            return i >= 0 && i < size ? values[i] : NONE;
+        int value() {
+            return at >= 0 && at < size ? values[at] : NONE;
         }
 
-        void split() {
+        int begin() {
+            return at >= 0 && at < size ? begins[at] : textLength;
+        }
+
+        void split(Tape tape) {
             size = 0;
+            at = 0;
+            textLength = tape.size;
             int from = 0;
-            while (from < tape.size) {
+            for (int i = 0; i < Tape.ROOM && from < tape.size; i++) {
                 int first = tape.at(from);
                 int behind = from + 1;
                 if (isLetter(first)) {
-                    behind = wordEnd(from);
-                    add(wordFrom(from, behind), from, NONE);
+                    behind = wordEnd(tape, from);
+                    add(wordIn(tape, from, behind), from, NONE);
                 } else if (isDigit(first)) {
-                    behind = numberEnd(from);
-                    add(Thing.NUMBER, from, numberFrom(from, behind));
+                    behind = numberEnd(tape, from);
+                    add(Thing.NUMBER, from, numberIn(tape, from, behind));
                 } else if (first != ' ') {
                     add(Thing.sign(first), from, NONE);
                 }
@@ -777,7 +797,7 @@ public final class PlainWords {
             }
         }
 
-        private int wordEnd(int from) {
+        private static int wordEnd(Tape tape, int from) {
             int behind = from + 1;
             while (behind < tape.size && isLetter(tape.at(behind))) {
                 behind++;
@@ -785,16 +805,16 @@ public final class PlainWords {
             return behind;
         }
 
-        private int wordFrom(int from, int behind) {
+        private static int wordIn(Tape tape, int from, int behind) {
             for (int word = 0; word < Thing.WORDS; word++) {
-                if (stands(Thing.text(word), from, behind)) {
+                if (stands(Thing.text(word), tape, from, behind)) {
                     return word;
                 }
             }
             return Thing.UNKNOWN;
         }
 
-        private boolean stands(String word, int from, int behind) {
+        private static boolean stands(String word, Tape tape, int from, int behind) {
             if (word.length() != behind - from) {
                 return false;
             }
@@ -806,7 +826,7 @@ public final class PlainWords {
             return true;
         }
 
-        private int numberEnd(int from) {
+        private static int numberEnd(Tape tape, int from) {
             int behind = from + 1;
             while (behind < tape.size && isDigit(tape.at(behind))) {
                 behind++;
@@ -814,7 +834,7 @@ public final class PlainWords {
             return behind;
         }
 
-        private int numberFrom(int from, int behind) {
+        private static int numberIn(Tape tape, int from, int behind) {
             if (behind - from > MOST_DIGITS) {
                 return NONE;
             }
@@ -837,57 +857,58 @@ public final class PlainWords {
     /** Reads the things of the tape by the grammar; where one cannot stand, it stays at that one. */
     private static final class Reader {
         final Letter draft;
-        private final Splitter things;
-        private int at;
+        private final Things things;
         private int who;
         private int mode;
         private final int[] acts;
         private int actsRead;
 
-        Reader(Tape tape) {
+        Reader() {
             draft = new Letter();
-            things = new Splitter(tape);
+            things = new Things();
             acts = new int[Sentence.MOST_ACTS];
+            who = Sentence.NOBODY;
+            mode = Sentence.MUST;
+            actsRead = 0;
         }
 
         /** Whether the text is right: then the draft is what it says. */
-        boolean read() {
+        boolean read(Tape tape) {
             draft.clear();
-            things.split();
-            at = 0;
+            things.split(tape);
             boolean right = readSentence();
-            for (int i = 1; i < Letter.MOST_READ && right && take(Thing.SEMICOLON); i++) {
+            for (int i = 1; i < Letter.MOST_READ && right && things.take(Thing.SEMICOLON); i++) {
                 right = readSentence();
             }
-            return right && sees(Thing.TEXT_END);
+            return right && things.sees(Thing.TEXT_END);
         }
 
         int stoppedAt() {
-            return things.begin(at);
+            return things.begin();
         }
 
         private boolean readSentence() {
             Cond when = null;
-            if (take(Thing.IF)) {
+            if (things.take(Thing.IF)) {
                 when = readCond(0);
-                if (when == null || !take(Thing.COMMA)) {
+                if (when == null || !things.take(Thing.COMMA)) {
                     return false;
                 }
             }
-            boolean passive = sees(Thing.ACT);
+            boolean passive = things.sees(Thing.ACT);
             if (!(passive ? readPassive() : readActive())) {
                 return false;
             }
             Cond unless = null;
-            if (take(Thing.UNLESS)) {
+            if (things.take(Thing.UNLESS)) {
                 unless = readCond(0);
                 if (unless == null) {
                     return false;
                 }
             }
             int limit = NONE;
-            if (take(Thing.WITHIN)) {
-                limit = takeNumber(1, Sentence.MOST_DAYS);
+            if (things.take(Thing.WITHIN)) {
+                limit = things.takeNumber(1, Sentence.MOST_DAYS);
                 if (limit == NONE) {
                     return false;
                 }
@@ -901,34 +922,34 @@ public final class PlainWords {
         }
 
         private boolean readPassive() {
-            if (!readActs() || !readMode() || !take(Thing.BE) || !take(Thing.DONE)) {
+            if (!readActs() || !readMode() || !things.take(Thing.BE) || !things.take(Thing.DONE)) {
                 return false;
             }
             who = Sentence.NOBODY;
-            return !take(Thing.BY) || readWho();
+            return !things.take(Thing.BY) || readWho();
         }
 
         private boolean readWho() {
-            if (take(Thing.YOU)) {
+            if (things.take(Thing.YOU)) {
                 who = Thing.YOU;
-            } else if (take(Thing.WE)) {
+            } else if (things.take(Thing.WE)) {
                 who = Thing.WE;
             } else {
                 who = Thing.THEY;
-                return take(Thing.THEY);
+                return things.take(Thing.THEY);
             }
             return true;
         }
 
         private boolean readMode() {
-            if (take(Thing.MAY)) {
+            if (things.take(Thing.MAY)) {
                 mode = Sentence.MAY;
                 return true;
             }
-            if (!take(Thing.MUST)) {
+            if (!things.take(Thing.MUST)) {
                 return false;
             }
-            mode = take(Thing.NOT) ? Sentence.MUST_NOT : Sentence.MUST;
+            mode = things.take(Thing.NOT) ? Sentence.MUST_NOT : Sentence.MUST;
             return true;
         }
 
@@ -936,17 +957,17 @@ public final class PlainWords {
         private boolean readActs() {
             actsRead = 0;
             boolean right = readAct();
-            for (int i = 1; i < Sentence.MOST_ACTS && right && take(Thing.AND); i++) {
+            for (int i = 1; i < Sentence.MOST_ACTS && right && things.take(Thing.AND); i++) {
                 right = readAct();
             }
             return right;
         }
 
         private boolean readAct() {
-            if (!take(Thing.ACT) || isTold(things.value(at))) {
+            if (!things.take(Thing.ACT) || isTold(things.value())) {
                 return false;
             }
-            int act = takeNumber(0, Sentence.HIGHEST_ACT);
+            int act = things.takeNumber(0, Sentence.HIGHEST_ACT);
             if (act == NONE || actsRead >= acts.length) {
                 return false;
             }
@@ -973,7 +994,7 @@ public final class PlainWords {
         /** The condition that comes; null where it is wrong. */
         private Cond readCond(int depth) {
             Cond row = readAll(depth);
-            for (int i = 0; i < Tape.ROOM && row != null && take(Thing.OR); i++) {
+            for (int i = 0; i < Tape.ROOM && row != null && things.take(Thing.OR); i++) {
                 row = Cond.joined(Cond.OR, row, readAll(depth));
             }
             return row;
@@ -981,48 +1002,27 @@ public final class PlainWords {
 
         private Cond readAll(int depth) {
             Cond row = readItem(depth);
-            for (int i = 0; i < Tape.ROOM && row != null && take(Thing.AND); i++) {
+            for (int i = 0; i < Tape.ROOM && row != null && things.take(Thing.AND); i++) {
                 row = Cond.joined(Cond.AND, row, readItem(depth));
             }
             return row;
         }
 
         private Cond readItem(int depth) {
-            if (take(Thing.CASE)) {
-                return Cond.ofCase(takeNumber(0, Cond.HIGHEST_CASE));
+            if (things.take(Thing.CASE)) {
+                return Cond.ofCase(things.takeNumber(0, Cond.HIGHEST_CASE));
             }
             if (depth >= MOST_DEEP) {
                 return null;
             }
-            if (take(Thing.NOT)) {
+            if (things.take(Thing.NOT)) {
                 return Cond.negated(readItem(depth + 1));
             }
-            if (!take(Thing.OPEN)) {
+            if (!things.take(Thing.OPEN)) {
                 return null;
             }
             Cond inner = readCond(depth + 1);
-            return inner != null && take(Thing.CLOSE) ? inner : null;
-        }
-
-        private boolean sees(int wanted) {
-            return things.kind(at) == wanted;
-        }
-
-        private boolean take(int wanted) {
-            boolean there = sees(wanted);
-            if (there) {
-                at++;
-            }
-            return there;
-        }
-
-        private int takeNumber(int least, int most) {
-            int value = things.value(at);
-            if (value < least || value > most) {
-                return NONE;
-            }
-            at++;
-            return value;
+            return inner != null && things.take(Thing.CLOSE) ? inner : null;
         }
     }
 
@@ -1034,6 +1034,8 @@ public final class PlainWords {
 
         Writer() {
             bytes = new byte[Tape.ROOM];
+            size = 0;
+            behindOpen = false;
         }
 
         void writeLetter(Letter letter) {
@@ -1054,7 +1056,9 @@ public final class PlainWords {
                 put(',');
             }
             if (sentence.passive) {
-                writePassive(sentence);
+                writeActs(sentence.acts);
+                writeMode(sentence.mode);
+                writeDone(sentence.who);
             } else {
                 writeWord(sentence.who);
                 writeMode(sentence.mode);
@@ -1070,14 +1074,12 @@ public final class PlainWords {
             }
         }
 
-        private void writePassive(Sentence sentence) {
-            writeActs(sentence.acts);
-            writeMode(sentence.mode);
+        private void writeDone(int who) {
             writeWord(Thing.BE);
             writeWord(Thing.DONE);
-            if (sentence.who != Sentence.NOBODY) {
+            if (who != Sentence.NOBODY) {
                 writeWord(Thing.BY);
-                writeWord(sentence.who);
+                writeWord(who);
             }
         }
 

@@ -74,6 +74,12 @@ public final class ReadingTest {
         Desk.dueFault("you must\u00ff act 1", 8);
         Desk.dueFault("you must act 1.", 14);
         Desk.dueFault("youmust act 1", 0);
+        Desk.dueFault("youa must act 1", 0);
+        Desk.dueFault("youz must act 1", 0);
+        Desk.dueFault("you`must act 1", 3);
+        Desk.dueFault("you{must act 1", 3);
+        Desk.dueFault("you must act 1:", 14);
+        Desk.dueFault("you must act 1/", 14);
         Desk.dueFault("yo must act 1", 0);
         Desk.dueFault("you you must act 1", 4);
         Desk.dueFault("you act 1", 4);
