@@ -75,17 +75,17 @@ public final class AskingTest {
         Desk.due("days of act 10", desk.words.days(0, 10, 0), -1);
     }
 
+    /** As many turns done as told, of part, turn, ease and plainest. */
     private static void oldAndNew() {
-        Desk desk = Desk.reading("if not not case 0,act 1 and act 2 must be done by we unless case 1 or not case 2 within 8;we may act 1");
-        dueSameAsks(desk);
-        desk.words.part(0);
-        dueSameAsks(desk);
-        desk.words.turn(1);
-        dueSameAsks(desk);
-        desk.words.ease(0);
-        dueSameAsks(desk);
-        desk.words.plainest();
-        dueSameAsks(desk);
+        for (int turns = 0; turns <= 4; turns++) {
+            Desk desk = Desk.reading("if not not case 0,act 1 and act 2 must be done by we unless case 1 or not case 2 within 8;"
+                    + "we may act 1");
+            Desk.due("part(0)", turns >= 1 && !desk.words.part(0), false);
+            Desk.due("turn(1)", turns >= 2 && !desk.words.turn(1), false);
+            Desk.due("ease(0)", turns >= 3 && !desk.words.ease(0), false);
+            Desk.due("plainest()", turns >= 4 && desk.words.plainest() < 0, false);
+            dueSameAsks(desk);
+        }
     }
 
     private static void dueSameAsks(Desk desk) {

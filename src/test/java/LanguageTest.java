@@ -8,9 +8,10 @@ import java.util.regex.Pattern;
 
 /** The rules of LANGUAGE.md that can be seen in the class's text; the path of its file is the first argument. */
 public final class LanguageTest {
-    private static final String[] RULED_OUT = {"catch", "finally", "synchronized", "assert", "lambda", "->", "::", "try",
-        "record", "float", "double", "hashCode", "toString", "protected", "System\\.(?!arraycopy)", "Exact\\b", "static \\{",
-        "Arrays\\.", "new Random", "Thread", "getMessage", "package "};
+    private static final String[] RULED_OUT = {"finally", "synchronized", "assert", "protected", "hashCode", "getMessage", "package",
+        "native", "volatile", "Thread", "Random", "::", "->", "System\\.(?!arraycopy)", "\\w+Exact\\b", "static \\{",
+        "Arrays\\.(?!copyOf\\b|copyOfRange\\b|fill\\b)", "try \\(", "extends \\w*(Exception|Error)\\b",
+        "catch \\([^)]*\\b(Exception|Throwable|\\w*Error|NullPointer\\w*|Array\\w+|ClassCast\\w*|NegativeArray\\w*)\\b"};
     private static final List<String> FACE = Arrays.asList("feed", "end", "letter", "fault", "part", "melt", "turn", "ease",
         "plainest", "again", "cost", "look", "same", "write", "taped", "ask", "days", "count");
 
@@ -18,6 +19,7 @@ public final class LanguageTest {
         String path = args.length > 0 ? args[0] : "src/main/java/PlainWords.java";
         String text = Files.readString(Path.of(path));
         String code = text.replaceAll("(?s)/\\*.*?\\*/", "").replaceAll("//[^\n]*", "").replaceAll("\"[^\"\n]*\"", "\"\"");
+        code = code.replaceAll("(?m)^ *(case [^:;{]*|default) ->", "");
         Desk.due("signs beyond 127", text.chars().filter(c -> c > 127).count(), 0L);
         for (String word : RULED_OUT) {
             boolean wordly = word.matches("[a-zA-Z]+");
@@ -66,7 +68,7 @@ public final class LanguageTest {
             boolean open = m.group(2).contains("public");
             Desk.due(m.group(3) + " bears a name of the face", !open && FACE.contains(m.group(3)), false);
         }
-        Desk.due("methods seen", seen > 60, true);
+        Desk.due("methods seen", seen >= FACE.size(), true);
     }
 
     private static void statics(String code) {

@@ -382,6 +382,10 @@ final class Model {
         return fresh == null ? 0 : fresh.size();
     }
 
+    int taped() {
+        return tape.length();
+    }
+
     private static List<Line> copies(List<Line> lines) {
         List<Line> all = new ArrayList<>();
         for (Line line : lines) {

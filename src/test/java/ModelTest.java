@@ -4,13 +4,11 @@ import java.util.Random;
 /** All promises: long runs of chance calls, right and wrong ones, answered by the class as by the model. */
 public final class ModelTest {
     private static final int RUNS = 1500;
-    private static final int CALLS = 512;
 
     private final Random chance;
-    private final PlainWords words = new PlainWords();
+    private final Counted words = new Counted();
     private final Model model = new Model();
     private final StringBuilder history = new StringBuilder();
-    private int calls = 0;
 
     private ModelTest(long seed) {
         chance = new Random(seed);
@@ -24,8 +22,8 @@ public final class ModelTest {
     }
 
     private void run() {
-        while (calls < CALLS && !Desk.anyWrong()) {
-            if (calls < 30 && chance.nextInt(3) == 0) {
+        for (int letters = 0; words.callsLeft() > 0 && !Desk.anyWrong(); letters++) {
+            if (letters < 2 && chance.nextInt(3) == 0) {
                 chanceCall();
             }
             if (chance.nextInt(12) == 0) {
@@ -60,8 +58,8 @@ public final class ModelTest {
     }
 
     private void compareTape() {
-        for (int i = 0; i <= words.count(2); i += 1 + chance.nextInt(3)) {
-            Desk.dueOf("taped(" + i + ")", dueCall("taped", i), model.call("taped", new int[] {i}));
+        for (int i = 0; i <= model.taped(); i += 1 + chance.nextInt(3)) {
+            check("taped", i);
         }
     }
 
@@ -89,10 +87,9 @@ public final class ModelTest {
     }
 
     private void check(String name, int... a) {
-        if (Desk.anyWrong()) {
+        if (Desk.anyWrong() || words.callsLeft() == 0) {
             return;
         }
-        calls++;
         Object want = model.call(name, a);
         StringBuilder call = new StringBuilder(name).append(java.util.Arrays.toString(a));
         history.append(call).append(" due ").append(want).append('\n');

@@ -12,29 +12,18 @@ public final class ReadingTest {
     }
 
     private static void rightOnes() {
-        dueRead("you must act 0", 1);
-        dueRead("   you must act 0   ", 1);
-        dueRead("we must not act 9and act 8and act 7", 1);
-        dueRead("they may act 000 within 365", 1);
-        dueRead("act1must be done", 1);
-        dueRead("act 1 must not be done by we", 1);
-        dueRead("act 1 may be done by you unless case 5 within 1", 1);
-        dueRead("if(case 0),you may act 1;if not case 5 or case 4 and case 3,act 1 may be done", 2);
-        dueRead("if((((((((((((case 0)))))))))))),we may act 1", 1);
-        dueRead("if not(not(not(not(not(not(case 0)))))),we may act 1", 1);
-        dueRead("if(((((((((((case 0))))))))))) and(((((((((((not case 0))))))))))),we may act 1", 1);
-        dueRead("we may act 1;we may act 1;we may act 1;we may act 1;we may act 1;we may act 1;we may act 1;we may act 1", 8);
-    }
-
-    private static void dueRead(String text, int sentences) {
-        Desk desk = new Desk();
-        desk.tape(text);
-        Desk.dueOf("letter() of " + text, desk.words::letter, sentences);
-        Desk.due("fault() of " + text, desk.words.fault(), -1);
-        Desk.due("count(0) of " + text, desk.words.count(0), sentences);
-        Desk.due("count(1) of " + text, desk.words.count(1), sentences);
-        Desk.due("count(2) of " + text, desk.words.count(2), 0);
-        Desk.due("count(3) of " + text, desk.words.count(3), 1);
+        Desk.dueRead("you must act 0", 1);
+        Desk.dueRead("   you must act 0   ", 1);
+        Desk.dueRead("we must not act 9and act 8and act 7", 1);
+        Desk.dueRead("they may act 000 within 365", 1);
+        Desk.dueRead("act1must be done", 1);
+        Desk.dueRead("act 1 must not be done by we", 1);
+        Desk.dueRead("act 1 may be done by you unless case 5 within 1", 1);
+        Desk.dueRead("if(case 0),you may act 1;if not case 5 or case 4 and case 3,act 1 may be done", 2);
+        Desk.dueRead("if((((((((((((case 0)))))))))))),we may act 1", 1);
+        Desk.dueRead("if not(not(not(not(not(not(case 0)))))),we may act 1", 1);
+        Desk.dueRead("if(((((((((((case 0))))))))))) and(((((((((((not case 0))))))))))),we may act 1", 1);
+        Desk.dueRead("we may act 1;we may act 1;we may act 1;we may act 1;we may act 1;we may act 1;we may act 1;we may act 1", 8);
     }
 
     /** Every begin of a letter that is none lacks something at its end, and nowhere else. */
@@ -49,8 +38,8 @@ public final class ReadingTest {
             String begin = text.toString();
             boolean whole = isWhole(things, i);
             if (whole) {
-                dueRead(begin, i > 32 ? 2 : 1);
-                dueRead(begin.trim(), i > 32 ? 2 : 1);
+                Desk.dueRead(begin, i > 32 ? 2 : 1);
+                Desk.dueRead(begin.trim(), i > 32 ? 2 : 1);
             } else {
                 Desk.dueFault(begin, begin.length());
                 Desk.dueFault(begin.trim(), begin.trim().length());
@@ -149,8 +138,8 @@ public final class ReadingTest {
         Desk.dueFault("if case 006,you must act 1", 8);
         Desk.dueFault("if case 0005,you must act 1", 8);
         Desk.dueFault("you must act 1 unless case 10", 27);
-        dueRead("if case 005,you must act 009 within 365", 1);
-        dueRead("if case 0,you must act 0 within 001", 1);
+        Desk.dueRead("if case 005,you must act 009 within 365", 1);
+        Desk.dueRead("if case 0,you must act 0 within 001", 1);
     }
 
     private static void tooMany() {
@@ -176,9 +165,9 @@ public final class ReadingTest {
         Desk.dueFault("if not (not (not (not (not (not ((case 1", 33);
         Desk.dueFault("we may act 1 unless (((((((((((case 1 or not (case 1", 45);
         // What has ended is no longer around what comes.
-        dueRead("if (((((((((((not case 1 or not case 2 and (case 3) or not case 4))))))))))),we may act 1", 1);
-        dueRead("if " + "not ".repeat(12) + "case 1 and " + "not ".repeat(12) + "case 1,we may act 1", 1);
-        dueRead("if " + open + "case 1" + "))))))))))))" + ",we may act 1 unless " + open + "case 1" + "))))))))))))", 1);
+        Desk.dueRead("if (((((((((((not case 1 or not case 2 and (case 3) or not case 4))))))))))),we may act 1", 1);
+        Desk.dueRead("if " + "not ".repeat(12) + "case 1 and " + "not ".repeat(12) + "case 1,we may act 1", 1);
+        Desk.dueRead("if " + open + "case 1" + "))))))))))))" + ",we may act 1 unless " + open + "case 1" + "))))))))))))", 1);
     }
 
     private static void whatWasStays() {

@@ -7,6 +7,8 @@ public final class RoomTest {
     private static final long MOST_BYTES = 4_000_000L;
     private static final ThreadMXBean MEMORY = (ThreadMXBean) ManagementFactory.getThreadMXBean();
 
+    private static final int MOST_CALLS_OF_A_RUN = 3;
+
     private interface Run {
         void go(Desk desk);
     }
@@ -18,22 +20,22 @@ public final class RoomTest {
         String deepNots = "act 1 may be done by we unless " + "not not(case 1 or case 2 and ".repeat(4) + "case 1" + ")".repeat(4);
         String many = "act 1 and act 2 and act 3 may be done by we unless case 1;".repeat(6) + "we may act 1";
         for (String text : new String[] {longRow, nested, notNots, deepNots, many}) {
-            due("letters of " + text, text, desk -> { desk.words.write(); Desk.answer(desk.words::letter); }, 256);
-            due("eased ones of " + text, text, desk -> { desk.words.again(); desk.words.ease(0); }, 256);
-            due("plainest ones of " + text, text, desk -> desk.words.plainest(), 512);
-            due("costs of " + text, text, desk -> desk.words.cost(false), 512);
-            due("sameness of " + text, text, desk -> desk.words.same(), 512);
-            due("writing of " + text, text, desk -> desk.words.write(), 512);
-            due("parts of " + text, text, desk -> { desk.words.part(0); desk.words.melt(0); desk.words.melt(0); }, 171);
+            due("letters of " + text, text, desk -> { desk.words.write(); Desk.answer(desk.words::letter); });
+            due("eased ones of " + text, text, desk -> { desk.words.again(); desk.words.ease(0); });
+            due("plainest ones of " + text, text, desk -> desk.words.plainest());
+            due("costs of " + text, text, desk -> desk.words.cost(false));
+            due("sameness of " + text, text, desk -> desk.words.same());
+            due("writing of " + text, text, desk -> desk.words.write());
+            due("parts of " + text, text, desk -> { desk.words.part(0); desk.words.melt(0); desk.words.melt(0); });
         }
         Desk.finish();
     }
 
-    private static void due(String name, String text, Run run, int times) {
+    private static void due(String name, String text, Run run) {
         Desk desk = Desk.reading(text);
         run.go(desk);
         long before = MEMORY.getCurrentThreadAllocatedBytes();
-        for (int i = 0; i < times; i++) {
+        while (desk.words.callsLeft() >= MOST_CALLS_OF_A_RUN) {
             run.go(desk);
         }
         long bytes = MEMORY.getCurrentThreadAllocatedBytes() - before;

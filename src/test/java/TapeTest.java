@@ -10,7 +10,7 @@ public final class TapeTest {
     }
 
     private static void newObject() {
-        PlainWords x = new PlainWords();
+        Counted x = new Counted();
         for (int what = 0; what <= 4; what++) {
             Desk.due("new: count(" + what + ")", x.count(what), 0);
         }
@@ -36,7 +36,7 @@ public final class TapeTest {
     }
 
     private static void feeding() {
-        PlainWords x = new PlainWords();
+        Counted x = new Counted();
         Desk.due("first feed", x.feed(0x01020304, -1, 0x80000000, 0x7f00ff10, 5), 20);
         int[] bytes = {1, 2, 3, 4, 255, 255, 255, 255, 128, 0, 0, 0, 127, 0, 255, 16, 0, 0, 0, 5};
         for (int i = 0; i < bytes.length; i++) {
@@ -61,7 +61,7 @@ public final class TapeTest {
     }
 
     private static void ending() {
-        PlainWords x = new PlainWords();
+        Counted x = new Counted();
         Desk.due("end(0) of none", x.end(0), true);
         Desk.due("end(1) of none", x.end(1), false);
         Desk.due("end(-1) of none", x.end(-1), false);
@@ -89,20 +89,16 @@ public final class TapeTest {
         Desk.due("write() in place of what was", desk.words.write(), want.length());
         Desk.due("the written letter", desk.taped(), want);
         Desk.due("count(2) of it", desk.words.count(2), want.length());
-        dueWritten("if not((case 1 or case 2)and case 3),we may act 1", "if not ((case 1 or case 2) and case 3), we may act 1");
-        dueWritten("if case 1 and(case 2 and case 3)or(case 4 or case 5),we may act 1",
+        Desk.dueWritten("if not((case 1 or case 2)and case 3),we may act 1", "if not ((case 1 or case 2) and case 3), we may act 1");
+        Desk.dueWritten("if case 1 and(case 2 and case 3)or(case 4 or case 5),we may act 1",
                 "if case 1 and case 2 and case 3 or case 4 or case 5, we may act 1");
-        dueWritten("if not(not(case 0)and((case 1))),we must act 0 within 7;act 1 may be done unless(case 1 or(case 2 and case 3))",
+        Desk.dueWritten("if not(not(case 0)and((case 1))),we must act 0 within 7;act 1 may be done unless(case 1 or(case 2 and case 3))",
                 "if not (not case 0 and case 1), we must act 0 within 7; act 1 may be done unless case 1 or case 2 and case 3");
-        dueWritten("they must act 1 and act 2 and act 3 within 365", "they must act 1 and act 2 and act 3 within 365");
-        dueWritten("they must act 1 within 100;we must act 1 within 099;you must act 1 within 10;you must act 0 within 001",
+        Desk.dueWritten("they must act 1 and act 2 and act 3 within 365", "they must act 1 and act 2 and act 3 within 365");
+        Desk.dueWritten("they must act 1 within 100;we must act 1 within 099;you must act 1 within 10;you must act 0 within 001",
                 "they must act 1 within 100; we must act 1 within 99; you must act 1 within 10; you must act 0 within 1");
-        dueWritten("if case 0 and(case 1 or case 2)and(case 3 or case 4 and(case 5 or not(case 0))),we may act 1",
+        Desk.dueWritten("if case 0 and(case 1 or case 2)and(case 3 or case 4 and(case 5 or not(case 0))),we may act 1",
                 "if case 0 and (case 1 or case 2) and (case 3 or case 4 and (case 5 or not case 0)), we may act 1");
-    }
-
-    private static void dueWritten(String text, String want) {
-        Desk.due("written of " + text, Desk.reading(text).written(), want);
     }
 
     private static void tooLongToWrite() {

@@ -160,7 +160,8 @@ public final class TurnsTest {
         dueEase("we may act 1 unless " + deep, "if not (" + deep + "), we may act 1", true);
         Desk desk = Desk.reading("we may act 1 unless " + deep);
         desk.words.ease(0);
-        int begin = desk.written().lastIndexOf('(', desk.taped().lastIndexOf('(') - 1);
+        String text = desk.written();
+        int begin = text.lastIndexOf('(', text.lastIndexOf('(') - 1);
         Desk.dueOf("letter() of it", desk.words::letter, "IllegalArgumentException");
         Desk.due("fault() of it", desk.words.fault(), begin);
     }
