@@ -12,6 +12,7 @@ import java.util.TreeSet;
 import java.util.concurrent.ExecutorService;
 import java.util.concurrent.Executors;
 import java.util.concurrent.TimeUnit;
+import java.util.concurrent.atomic.AtomicInteger;
 import java.util.regex.Matcher;
 import java.util.regex.Pattern;
 import javax.tools.ToolProvider;
@@ -44,6 +45,7 @@ public final class BrokenCheck {
     private final List<String> survivors = Collections.synchronizedList(new ArrayList<>());
     private final Set<String> madeToFail = Collections.synchronizedSet(new TreeSet<>());
     private final ExecutorService pool = Executors.newFixedThreadPool(Runtime.getRuntime().availableProcessors());
+    private final AtomicInteger compiled = new AtomicInteger();
     private int tried = 0;
 
     private BrokenCheck(String source, String tests, Path room) {
@@ -59,7 +61,7 @@ public final class BrokenCheck {
         check.survivors.stream().sorted().forEach(s -> System.out.println("passes        " + s));
         neverFailed.removeAll(check.madeToFail);
         neverFailed.forEach(name -> System.out.println("never failed  " + name));
-        System.out.println(check.tried + " breaks tried, " + check.survivors.size() + " pass");
+        System.out.println(check.compiled.get() + " broken classes of " + check.tried + " tried compile, " + check.survivors.size() + " pass");
     }
 
     private void breakAll() throws InterruptedException {
@@ -108,6 +110,7 @@ public final class BrokenCheck {
         if (ToolProvider.getSystemJavaCompiler().run(null, nowhere, nowhere, "-d", dir.toString(), file.toString()) != 0) {
             return;
         }
+        compiled.incrementAndGet();
         List<String> told = run(dir + File.pathSeparator + tests);
         madeToFail.addAll(named(told, Bounds.BROKEN));
         if (told.contains(ENDED_WELL)) {
