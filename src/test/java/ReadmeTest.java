@@ -1,31 +1,22 @@
-import java.io.ByteArrayOutputStream;
 import java.io.IOException;
-import java.io.PrintStream;
-import java.net.URL;
-import java.net.URLClassLoader;
 import java.nio.charset.StandardCharsets;
 import java.nio.file.Files;
 import java.nio.file.Path;
-import javax.tools.ToolProvider;
+import java.util.stream.Stream;
 
 /** The example of README.md compiles beside the class and prints what README.md says; the class's file is the first argument. */
 public final class ReadmeTest {
     private static final String NAME = "Example";
 
-    public static void main(String[] args) throws IOException, ReflectiveOperationException {
+    public static void main(String[] args) throws IOException, InterruptedException {
         Path source = Path.of(args.length > 0 ? args[0] : "src/main/java/PlainWords.java").toAbsolutePath();
-        Path readme = source.resolve("../../../../README.md").normalize();
-        String text = Files.readString(readme);
+        String text = Files.readString(source.resolve("../../../../README.md").normalize());
         Path room = Files.createTempDirectory("readme");
         try {
             Path example = room.resolve(NAME + ".java");
             Files.writeString(example, block(text, "java"));
-            String[] call = {"-d", room.toString(), source.toString(), example.toString()};
-            int failed = ToolProvider.getSystemJavaCompiler().run(null, null, null, call);
-            Desk.due("the example of README.md compiles, exit code", failed, 0);
-            if (failed == 0) {
-                Desk.due("what the example of README.md prints", printed(room), block(text, "text"));
-            }
+            run("", "javac", "-Xlint:all", "-Werror", "-d", room.toString(), source.toString(), example.toString());
+            run(block(text, "text"), "java", "-cp", room.toString(), NAME);
         } finally {
             clear(room);
         }
@@ -43,22 +34,16 @@ public final class ReadmeTest {
         return text.substring(text.indexOf('\n', begin) + 1, end + 1);
     }
 
-    private static String printed(Path room) throws IOException, ReflectiveOperationException {
-        ByteArrayOutputStream bytes = new ByteArrayOutputStream();
-        PrintStream before = System.out;
-        // The class that the example is compiled with is the one of its own directory, not that of the tests.
-        URL[] where = {room.toUri().toURL()};
-        try (URLClassLoader loader = new URLClassLoader(where, ClassLoader.getPlatformClassLoader())) {
-            System.setOut(new PrintStream(bytes, true, StandardCharsets.UTF_8));
-            loader.loadClass(NAME).getMethod("main", String[].class).invoke(null, (Object) new String[0]);
-        } finally {
-            System.setOut(before);
-        }
-        return bytes.toString(StandardCharsets.UTF_8).replace(System.lineSeparator(), "\n");
+    /** What a command says beside its output goes to the test's own: a machine may say there how it was started. */
+    private static void run(String due, String... command) throws IOException, InterruptedException {
+        Process process = new ProcessBuilder(command).redirectError(ProcessBuilder.Redirect.INHERIT).start();
+        String told = new String(process.getInputStream().readAllBytes(), StandardCharsets.UTF_8);
+        Desk.due(command[0] + " of the example of README.md, exit code", process.waitFor(), 0);
+        Desk.due("what " + command[0] + " of the example of README.md prints", told, due);
     }
 
     private static void clear(Path room) throws IOException {
-        try (var files = Files.list(room)) {
+        try (Stream<Path> files = Files.list(room)) {
             for (Path file : (Iterable<Path>) files::iterator) {
                 Files.delete(file);
             }
